@@ -376,17 +376,13 @@ public final class StackMarks {
             int mark = queue[i];
             int kind = marks.kind[mark];
             if (!kinds.isInRow(kind)) {
-                layAlone(mark);
+                layAt(mark, innerAlone(mark));
             } else if (marks.turn[mark] < 0) {
                 late += layRow(kind, ABOVE);
                 late += layRow(kind, BELOW);
             }
         }
         return late;
-    }
-
-    private void layAlone(int mark) {
-        layAt(mark, innerAlone(mark));
     }
 
     private int innerAlone(int mark) {
@@ -455,7 +451,7 @@ public final class StackMarks {
         for (int i = 0; i < queued; i++) {
             int mark = queue[i];
             if (marks.isOf(mark, kind, side) && !marks.inRow[mark]) {
-                layAlone(mark);
+                layAt(mark, innerAlone(mark));
                 late++;
             }
         }

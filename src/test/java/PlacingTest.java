@@ -16,6 +16,9 @@ public final class PlacingTest {
         promise10PadAndGap();
         promise10EveryMarkIsFarOut();
         promise10Turns();
+        promise10TurnsAtTheBounds();
+        promise10SideByOneItemOfTheOtherVoice();
+        promise10EverythingAtOnce();
         promise10Refusals();
         promise9SlursComeFirst();
         promise9Late();
@@ -23,12 +26,15 @@ public final class PlacingTest {
         promise9RowAboveThenBelow();
         promise9RowHasWhatDoesNotOverlap();
         promise9RowTakesTheGreatestHeight();
+        promise9RowWhoseFirstMarkIsBelow();
         promise9Again();
+        promise9Anew();
         promise13Row();
         promise13Refusals();
         promise14Order();
         promise14Refusals();
         promise15Meets();
+        promise15TouchingInARow();
         promise15Refusals();
         check.end();
     }
@@ -226,6 +232,60 @@ public final class PlacingTest {
         }
     }
 
+    private static void promise10TurnsAtTheBounds() {
+        StackMarks s = new StackMarks();
+        s.note(100000, 0, 0, 0, 0);
+        s.note(0, 0, 0, 0, 0);
+        s.set(0, 5, 1); // OUTER and the least ORDER, at the least x: still behind all others
+        s.mark(1, 0, 4, 4);
+        s.mark(0, 9, 4, 4);
+        s.mark(1, 9, 4, 4);
+        s.mark(0, 8, 4, 4); // the less ORDER, at the greatest x: still ahead of KIND 9
+        s.place();
+        int[] turns = {3, 2, 1, 0};
+        for (int i = 0; i < turns.length; i++) {
+            check.due("turn of " + i, s.at(i, 6), turns[i]);
+        }
+    }
+
+    private static void promise10SideByOneItemOfTheOtherVoice() {
+        StackMarks one = new StackMarks();
+        one.note(10, 0, 0, 0, 0);
+        one.note(30, 0, 0, 0, 0);
+        one.note(50, 0, 0, 1, 0);
+        sidesAre(one, 0, 1, 1, 1, -1);
+        StackMarks zero = new StackMarks();
+        zero.note(10, 0, 0, 0, 0);
+        zero.note(30, 0, 0, 1, 0);
+        zero.note(50, 0, 0, 1, 0);
+        sidesAre(zero, 2, -1, -1, 1, -1);
+    }
+
+    private static void promise10EverythingAtOnce() {
+        StackMarks s = new StackMarks();
+        for (int i = 0; i < 40; i++) {
+            s.note(i * 20, 20, 20, 0, 1);
+        }
+        s.set(0, 1, 2);
+        for (int i = 0; i < 10; i++) {
+            s.slur(0, 39, 1, 1);
+        }
+        for (int i = 0; i < 80; i++) {
+            s.mark(i % 40, 0, 1, 1);
+        }
+        check.due("place()", s.place(), 0);
+        // notes up to 48, slurs 7 each, two marks 3 each
+        check.due("the last slur's outer height", s.slurAt(9, 1), 48 + 10 * 7 - 3);
+        check.due("the first mark's INNER height", s.at(0, 3), 48 + 70 + 2);
+        check.due("the last mark's OUTER height", s.at(79, 4), 48 + 70 + 6);
+        check.due("the last mark's turn", s.at(79, 6), 79);
+        check.due("the first one's turn", s.at(0, 6), 0);
+        for (int i = 0; i < 40; i++) {
+            check.due("skyline over item " + i, s.skyline(i * 20, 1), 48 + 70 + 6);
+            check.due("skyline beside item " + i, s.skyline(i * 20 + 1, 1), i == 39 ? 48 : 48 + 70);
+        }
+    }
+
     private static void promise10Refusals() {
         StackMarks s = new StackMarks();
         s.note(10, 0, 0, 0, 0);
@@ -368,6 +428,42 @@ public final class PlacingTest {
         check.due("skyline(120, 1)", s.skyline(120, 1), 18);
     }
 
+    private static void promise9RowWhoseFirstMarkIsBelow() {
+        StackMarks s = new StackMarks();
+        s.note(100, 0, 0, 0, -1);
+        s.note(200, 0, 0, 0, 1);
+        s.set(2, 4, 1);
+        s.set(2, 1, 0);
+        s.mark(0, 2, 4, 4); // below
+        s.mark(1, 2, 4, 4); // above
+        s.mark(1, 2, 4, 4); // above, late
+        check.due("place()", s.place(), 1);
+        int[] turns = {2, 0, 1};
+        for (int i = 0; i < turns.length; i++) {
+            check.due("turn of " + i, s.at(i, 6), turns[i]);
+        }
+        check.due("skyline(200, 1)", s.skyline(200, 1), 40);
+        check.due("skyline(100, -1)", s.skyline(100, -1), 34);
+    }
+
+    private static void promise9Anew() {
+        StackMarks s = new StackMarks();
+        s.note(100, 50, 50, 0, 0);
+        s.set(0, 4, 1);
+        s.set(0, 1, 2);
+        s.mark(0, 0, 4, 4);
+        s.place();
+        check.due("row(0, 1)", s.row(0, 1), 56);
+        s.lift(0, -50);
+        s.set(0, 1, 3);
+        s.place();
+        check.due("skyline(100, 1): nothing is left of it", s.skyline(100, 1), 18);
+        check.due("row(0, 1): it lies below now", s.row(0, 1), NONE);
+        check.due("row(0, -1)", s.row(0, -1), 20);
+        check.due("count(4)", s.count(4), 0);
+        check.due("count(5)", s.count(5), 24);
+    }
+
     private static void promise9Again() {
         StackMarks s = new StackMarks();
         s.note(100, 0, 0, 0, 0);
@@ -413,6 +509,10 @@ public final class PlacingTest {
         check.throwsState("row(0, 1) ahead of place()", () -> s.row(0, 1));
         check.due("row(10, 1) ahead of place()", s.row(10, 1), BAD);
         s.place();
+        for (int kind = 0; kind <= 9; kind++) {
+            check.due("row(" + kind + ", 1)", s.row(kind, 1), NONE);
+            check.due("row(" + kind + ", -1)", s.row(kind, -1), NONE);
+        }
         int[][] bad = {
             {-1, 1}, {10, 1}, {0, 0}, {0, 2}, {0, -2}, {Integer.MIN_VALUE, 1}, {Integer.MAX_VALUE, 1},
             {0, Integer.MAX_VALUE}
@@ -480,6 +580,20 @@ public final class PlacingTest {
                 check.due("meets(" + a + ", " + b + ")", s.meets(a, b), a == b ? BAD : 0);
             }
         }
+    }
+
+    private static void promise15TouchingInARow() {
+        StackMarks s = new StackMarks();
+        s.note(100, 0, 0, 0, 0);
+        s.note(110, 0, 0, 0, 0);
+        s.set(0, 2, 1);
+        s.set(0, 4, 1);
+        s.mark(0, 0, 10, 4);
+        s.mark(1, 0, 10, 4);
+        s.place();
+        check.due("one height", s.at(0, 3), s.at(1, 3));
+        check.due("meets(0, 1)", s.meets(0, 1), 0);
+        check.due("meets(1, 0)", s.meets(1, 0), 0);
     }
 
     private static void promise15Refusals() {

@@ -5,10 +5,13 @@ public final class PushingTest {
 
     public static void main(String[] args) {
         promise16Wide();
+        promise16NextByX();
         promise16OnlyWithLie();
         promise16Bad();
         promise17Push();
         promise17PushFull();
+        promise17PushFullByTheFirstItem();
+        promise17PushFortyItems();
         promise17PushBad();
         promise17PushKeepsPlacesIfNothingMoves();
         check.end();
@@ -28,6 +31,19 @@ public final class PushingTest {
         s.place();
         check.due("wide(3) behind place()", s.wide(3), 384);
         check.due("count(3) behind wide()", s.count(3), 1);
+    }
+
+    private static void promise16NextByX() {
+        StackMarks s = new StackMarks();
+        s.note(120, 0, 0, 0, 0);
+        s.note(100, 0, 0, 0, 0);
+        s.note(300, 0, 0, 0, 0);
+        s.note(110, 0, 0, 0, 0);
+        s.set(0, 2, 1);
+        s.mark(1, 0, 400, 3);
+        s.mark(3, 0, 400, 3);
+        check.due("wide(0): the next is item 3", s.wide(0), 394);
+        check.due("wide(1): the next is item 0", s.wide(1), 394);
     }
 
     private static void promise16OnlyWithLie() {
@@ -92,6 +108,32 @@ public final class PushingTest {
         xAre(s, 0, 110, 100000);
         check.due("push(0) by 1", s.push(0), FULL);
         xAre(s, 0, 110, 100000);
+    }
+
+    private static void promise17PushFullByTheFirstItem() {
+        StackMarks s = new StackMarks();
+        s.note(100000, 0, 0, 0, 0);
+        s.note(0, 0, 0, 0, 0);
+        s.note(10, 0, 0, 0, 0);
+        s.set(0, 2, 1);
+        s.mark(1, 0, 7, 3);
+        check.due("push(0)", s.push(0), FULL);
+        xAre(s, 100000, 0, 10);
+    }
+
+    private static void promise17PushFortyItems() {
+        StackMarks s = new StackMarks();
+        for (int i = 0; i < 40; i++) {
+            s.rest(1000 - 20 * i, 0, 0);
+        }
+        s.set(0, 2, 1);
+        s.mark(39, 0, 400, 3); // of the first by x, 220
+        check.due("wide(0)", s.wide(0), 384);
+        check.due("push(0)", s.push(0), 384);
+        check.due("item(39, 0)", s.item(39, 0), 220);
+        for (int i = 0; i < 39; i++) {
+            check.due("item(" + i + ", 0)", s.item(i, 0), 1384 - 20 * i);
+        }
     }
 
     private static void promise17PushBad() {
