@@ -117,18 +117,23 @@ public final class RefusalsTest {
         check.due("all answers, placed anew", look(s), placed);
     }
 
+    private static void fullChangesNothing(String what, StackMarks s, Check.Call... calls) {
+        s.place();
+        String before = look(s);
+        for (Check.Call call : calls) {
+            check.due("one more of " + what, call.answer(), Check.FULL);
+        }
+        check.due("all answers behind FULL", look(s), before);
+        s.place();
+        check.due("all answers, placed anew", look(s), before);
+    }
+
     private static void fullItemsChangeNothing() {
         StackMarks s = scene();
         for (int i = ITEMS; i < 40; i++) {
             s.note(1000 + i * 20, 0, 0, 0, 0);
         }
-        s.place();
-        String before = look(s);
-        check.due("note: FULL", s.note(500, 0, 0, 1, 0), Check.FULL);
-        check.due("rest: FULL", s.rest(500, 0, 1), Check.FULL);
-        check.due("all answers behind FULL", look(s), before);
-        s.place();
-        check.due("all answers, placed anew", look(s), before);
+        fullChangesNothing("40 items", s, () -> s.note(500, 0, 0, 1, 0), () -> s.rest(500, 0, 1));
     }
 
     private static void fullMarksChangeNothing() {
@@ -136,12 +141,7 @@ public final class RefusalsTest {
         for (int i = MARKS; i < 80; i++) {
             s.mark(2, 9, 1, 1);
         }
-        s.place();
-        String before = look(s);
-        check.due("mark: FULL", s.mark(0, 0, 1, 1), Check.FULL);
-        check.due("all answers behind FULL", look(s), before);
-        s.place();
-        check.due("all answers, placed anew", look(s), before);
+        fullChangesNothing("80 marks", s, () -> s.mark(0, 0, 1, 1));
     }
 
     private static void fullSlursChangeNothing() {
@@ -149,12 +149,7 @@ public final class RefusalsTest {
         for (int i = SLURS; i < 10; i++) {
             s.slur(1, 2, 1, 1);
         }
-        s.place();
-        String before = look(s);
-        check.due("slur: FULL", s.slur(0, 1, 1, 1), Check.FULL);
-        check.due("all answers behind FULL", look(s), before);
-        s.place();
-        check.due("all answers, placed anew", look(s), before);
+        fullChangesNothing("10 slurs", s, () -> s.slur(0, 1, 1, 1));
     }
 
     private static void thrownChangesNothing() {
