@@ -1,4 +1,9 @@
-/** Counts the answers that are not as due; a test ends with exit code 1 if there was one. */
+import java.lang.reflect.InvocationTargetException;
+import java.lang.reflect.Method;
+import java.util.Arrays;
+import java.util.Comparator;
+
+/** Runs the tests of a class and counts the answers that are not as due; exit code 1 if there was one. */
 final class Check {
     /** A call that may throw. */
     interface Call {
@@ -8,6 +13,45 @@ final class Check {
     static final int BAD = -100001, FULL = -100002, NONE = -100003;
 
     private int wrong;
+    /** The test that runs just now. */
+    private String test = "";
+
+    /** Numbers that lie just outside the bounds, and as far outside as an int can. */
+    static int[] beyond(int least, int most) {
+        return new int[] {least - 1, most + 1, Integer.MIN_VALUE, Integer.MAX_VALUE};
+    }
+
+    /**
+     * Runs every method without parameters whose name begins with "promise": found by name, so that
+     * none can be written and then forgotten.
+     */
+    void runAll(Class<?> tests) {
+        Method[] methods = tests.getDeclaredMethods();
+        Arrays.sort(methods, Comparator.comparing(Method::getName));
+        int ran = 0;
+        for (Method method : methods) {
+            if (method.getName().startsWith("promise") && method.getParameterCount() == 0) {
+                runOne(method);
+                ran++;
+            }
+        }
+        isTrue("there is a test", ran > 0);
+        System.out.println(ran + " tests");
+        end();
+    }
+
+    private void runOne(Method method) {
+        test = method.getName();
+        try {
+            method.setAccessible(true);
+            method.invoke(null);
+        } catch (InvocationTargetException e) {
+            tell("ended by " + e.getCause());
+        } catch (IllegalAccessException e) {
+            tell("cannot be run: " + e);
+        }
+        test = "";
+    }
 
     void due(String call, int got, int want) {
         if (got != want) {
@@ -19,6 +63,10 @@ final class Check {
         if (!got.equals(want)) {
             tell(call + " answered\n" + got + "\ndue is\n" + want);
         }
+    }
+
+    void bad(String call, int got) {
+        due(call, got, BAD);
     }
 
     void isTrue(String claim, boolean holds) {
@@ -52,6 +100,6 @@ final class Check {
 
     private void tell(String what) {
         wrong++;
-        System.out.println(what);
+        System.out.println(test.isEmpty() ? what : test + ": " + what);
     }
 }
