@@ -265,18 +265,21 @@ public final class ItemsTest {
         itemIs(s, 0, 30, -60, 60);
     }
 
-    /** The sum of a head and such a number would wrap around to one within bounds. */
+    /**
+     * "(its HEADS stay within bounds)": the one head's sum would wrap around and the other's would not,
+     * so that the lowest would not be seen below its bound, nor the highest above its own.
+     */
     private static void promise4NoWrapAround() {
         StackMarks s = new StackMarks();
-        s.note(10, -60, -50, 0, 0);
-        s.note(20, 50, 60, 0, 0);
-        int[] far = {Integer.MIN_VALUE, Integer.MIN_VALUE + 60, Integer.MAX_VALUE, Integer.MAX_VALUE - 60};
+        s.note(10, -60, 60, 0, 0);
+        s.note(20, -1, 1, 0, 0);
+        int[] far = {Integer.MIN_VALUE, Integer.MIN_VALUE + 59, Integer.MAX_VALUE, Integer.MAX_VALUE - 59};
         for (int by : far) {
             check.bad("lift(0, " + by + ")", s.lift(0, by));
             check.bad("lift(1, " + by + ")", s.lift(1, by));
         }
-        itemIs(s, 0, 10, -60, -50);
-        itemIs(s, 1, 20, 50, 60);
+        itemIs(s, 0, 10, -60, 60);
+        itemIs(s, 1, 20, -1, 1);
     }
 
     /** "BAD (.. or there is no such thing)" */

@@ -264,8 +264,19 @@ public final class PlaceTest {
         atIs(s, 3, 20, 26, 20);
     }
 
-    /** "those of its MARKS there": marks of another side or kind take no room in the row */
-    private static void promise9OtherMarksTakeNoRoomInTheRow() {
+    /** "A ROW on one side has those of its MARKS there": those of the other side take no room in it */
+    private static void promise9MarksOfTheOtherSideTakeNoRoomInTheRow() {
+        StackMarks s = rowOnBothSides();
+        s.note(104, 0, 0, 0, -1);
+        s.mark(0, 2, 9, 4); // above
+        s.mark(3, 2, 9, 4); // below, with x in common
+        check.due("place()", s.place(), 0);
+        atIs(s, 2, 1, -1);
+        atIs(s, 5, 1, 1);
+    }
+
+    /** "those of its MARKS": those of another kind that is in a row take no room in it */
+    private static void promise9MarksOfAnotherKindTakeNoRoomInTheRow() {
         StackMarks s = rowAbove();
         s.set(1, 1, 2);
         s.set(1, 4, 1);
