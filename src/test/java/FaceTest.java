@@ -43,19 +43,13 @@ public final class FaceTest {
 
     private static void methods(Check check) {
         Set<String> seen = new TreeSet<>();
-        Set<String> names = new TreeSet<>();
         for (Method m : StackMarks.class.getDeclaredMethods()) {
             if (Modifier.isPublic(m.getModifiers())) {
                 seen.add(face(m));
-                names.add(m.getName());
                 check.isTrue(m + " answers an int", m.getReturnType() == int.class);
                 check.isTrue(m + " is no static method", !Modifier.isStatic(m.getModifiers()));
-            }
-        }
-        for (Method m : StackMarks.class.getDeclaredMethods()) {
-            if (!Modifier.isPublic(m.getModifiers())) {
+            } else {
                 check.isTrue(m + " is private", Modifier.isPrivate(m.getModifiers()));
-                check.isTrue(m + " has a name of its own", !names.contains(m.getName()));
             }
         }
         check.due("the face", seen.toString(), new TreeSet<>(Set.of(FACE)).toString());
@@ -80,8 +74,6 @@ public final class FaceTest {
             boolean isPublic = constants.contains(f.getName());
             check.isTrue(f + " is as visible as it should be",
                     isPublic ? Modifier.isPublic(shape) : Modifier.isPrivate(shape));
-            check.isTrue(f + " is final if it is static",
-                    !Modifier.isStatic(shape) || Modifier.isFinal(shape));
         }
     }
 

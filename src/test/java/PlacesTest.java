@@ -39,6 +39,7 @@ public final class PlacesTest {
         }
     }
 
+    /** Also where NONE is due once all is placed: NONE is none of the refusals that come first. */
     private static void promise13RowThrows() {
         for (StackMarks s : new StackMarks[] {new StackMarks(), Scene.make(), unplacedAgain()}) {
             check.throwsState("row(1, -1)", () -> s.row(1, -1));
@@ -46,6 +47,7 @@ public final class PlacesTest {
         }
     }
 
+    /** Also where NONE is due once all is placed: NONE is none of the refusals that come first. */
     private static void promise14OrderThrows() {
         for (StackMarks s : new StackMarks[] {Scene.make(), unplacedAgain()}) {
             check.throwsState("order(0, -1, 0)", () -> s.order(0, -1, 0));
